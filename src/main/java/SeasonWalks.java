@@ -99,7 +99,7 @@ public final class SeasonWalks {
     public int cloister() throws IllegalArgumentException, UnsupportedOperationException {
         draft.copyFrom(now);
         wrongByte = CloisterText.readInto(tape, draft);
-        tape.size = 0;
+        tape.useUp();
         if (wrongByte != NONE) {
             throw new IllegalArgumentException();
         }
@@ -115,7 +115,7 @@ public final class SeasonWalks {
     /** Reads the tape as the law, in place of the one before: how many lines it has. */
     public int law() throws IllegalArgumentException {
         wrongByte = LawText.readInto(tape, draftLaw);
-        tape.size = 0;
+        tape.useUp();
         if (wrongByte != NONE) {
             throw new IllegalArgumentException();
         }
@@ -302,7 +302,7 @@ public final class SeasonWalks {
     /** The least way by the flags on the tape, or (next) the first flag of the best order. */
     public int road(int flag, boolean next) throws IndexOutOfBoundsException, IllegalArgumentException {
         boolean right = roads.readFlags(tape);
-        tape.size = 0;
+        tape.useUp();
         needFlag(flag);
         if (!right) {
             throw new IllegalArgumentException();
@@ -646,7 +646,7 @@ public final class SeasonWalks {
     }
 
     private void needRows(boolean right) {
-        tape.size = 0;
+        tape.useUp();
         if (!right) {
             throw new IllegalArgumentException();
         }
@@ -724,6 +724,10 @@ public final class SeasonWalks {
             return letter == ' ' ? BLANK : SIGN;
         }
 
+        private void useUp() {
+            size = 0;
+        }
+
         private int byteAt(int at) {
             return at >= 0 && at < size && at < MOST_BYTES ? bytes[at] : NONE;
         }
@@ -753,10 +757,13 @@ public final class SeasonWalks {
                 begin++;
             }
             behind = begin;
-            kind = begin >= 0 && begin < size && begin < MOST_BYTES ? kinds[begin] : END;
+            kind = END;
             sign = NONE;
+            if (begin >= 0 && begin < size && begin < MOST_BYTES) {
+                kind = kinds[begin];
+                sign = kind == SIGN ? bytes[begin] : NONE;
+            }
             if (kind == SIGN) {
-                sign = byteAt(begin);
                 behind++;
             } else if (kind != END) {
                 while (behind < size && behind < MOST_BYTES && kinds[behind] == kind) {
