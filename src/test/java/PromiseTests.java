@@ -204,6 +204,12 @@ public final class PromiseTests {
         cloisterFault(";", 0);
         cloisterFault(" Bell 1", 1);
         cloisterFault("bells 1", 0);
+        cloisterFault("bellz 1", 0);
+        cloisterFault("cell 1", 0);
+        cloisterFault("bell 1/", 6);
+        cloisterFault("bell 1:", 6);
+        cloisterFault("bell 1`", 6);
+        cloisterFault("bell 1{", 6);
         cloisterFault("bell\t1", 4);
         cloisterFault("bell -1", 5);
         cloisterFault("bell 16", 5);
@@ -659,6 +665,13 @@ public final class PromiseTests {
         x.cross(3);
         due.is("both lost", x.meet(2, 3), 5);
         due.noNumber("meet of one", () -> x.meet(1, 1));
+        SeasonWalks y = Tapes.told("monk at 0 stall 0 pace 1;monk at 3 stall 1 pace 0;hour 1");
+        Tapes.law(y, "keep if hour>0");
+        due.is("at the last", y.meet(0, 1), 72);
+        y.hours(23);
+        y.cross(1);
+        y.find(1);
+        due.is("too late", y.meet(0, 1), NONE);
         due.outOfBounds("meet 4", () -> x.meet(4, 4));
         due.outOfBounds("meet with -1", () -> x.meet(0, -1));
     }
@@ -692,6 +705,13 @@ public final class PromiseTests {
             y.hours(72);
         }
         due.is("late at most already", y.monk(1, 5) == 999 && y.tardy() == 1, true);
+        // From the hour 0 on the eighth office is at 21, the ninth at 0 again.
+        SeasonWalks z = Tapes.told("monk at 0 stall 0 pace 1");
+        Tapes.law(z, "keep if hour<20");
+        due.is("once, in the eighth", z.tardy(), 0);
+        Tapes.law(z, "keep if hour<22 or hour>22");
+        due.is("in the ninth", z.tardy(), NONE);
+        due.is("nine offices", z.lates(8) * 10 + z.lates(9), 1);
     }
 
     private static void p23Ring() {
@@ -699,6 +719,18 @@ public final class PromiseTests {
         due.is("ring", x.ring(), 9);
         due.is("the bell stays", x.count(5), 0);
         due.is("the least", Tapes.told("monk at 9 stall 1 pace 0;monk at 6 stall 0 pace 0").ring(), 6);
+        // From 0 he goes to 2 and stays: by the bell at 0 late 7 of 8 times, at 2 once.
+        SeasonWalks y = Tapes.told("monk at 0 stall 0 pace 1;hour 0");
+        Tapes.law(y, "keep if hour<1 or hour>2");
+        due.is("where he stays", y.ring(), 2);
+        // At 5 for four offices, then at 9 for four; a ninth would be at 9.
+        SeasonWalks z = Tapes.told("monk at 5 stall 0 pace 4;hour 0");
+        Tapes.law(z, "keep if not(9<hour and hour<11)");
+        due.is("as often at both", z.ring(), 5);
+        // At 9 for four offices, then at 5 for four; without the eighth 9 were better.
+        SeasonWalks w = Tapes.told("monk at 9 stall 0 pace 8;hour 0");
+        Tapes.law(w, "slow 4;keep if not(9<hour and hour<13)");
+        due.is("as often, behind", w.ring(), 5);
         due.is("of nobody", new SeasonWalks().ring(), 0);
     }
 
@@ -721,12 +753,38 @@ public final class PromiseTests {
         due.is("at the last", x.starves(), 72);
         x.fill(0, 1);
         due.is("never", x.starves(), NONE);
+        noDraws();
         due.is("nobody", new SeasonWalks().starves(), NONE);
         SeasonWalks y = Tapes.told("monk at 0 stall 0 pace 0;store spring 0");
         y.hours(1);
         due.is("now", y.starves(), 0);
         y.fill(0, 5);
         due.is("hungry yet", y.starves(), 0);
+    }
+
+    /** What comes ahead comes without draws: a fickle mood changes nothing. */
+    private static void noDraws() {
+        String text = "monk at 5 stall 0 pace 2;monk at 0 stall 1 pace 3;monk at 8 stall 2 pace 1;bell 3;mood spring";
+        SeasonWalks x = Tapes.told(text);
+        SeasonWalks y = Tapes.told(text + ";fickle 100");
+        Tapes.law(x, "haste 3 if season>0;slow 1 if season>2");
+        Tapes.law(y, "haste 3 if season>0;slow 1 if season>2");
+        for (int m = 0; m < 3; m++) {
+            for (int flag = 0; flag < 16; flag++) {
+                due.is("when", y.when(m, flag), x.when(m, flag));
+            }
+            due.is("meet", y.meet(m, (m + 1) % 3), x.meet(m, (m + 1) % 3));
+            due.is("ahead", y.ahead(m, 70, 0), x.ahead(m, 70, 0));
+        }
+        due.is("lates", y.lates(9), x.lates(9));
+        due.is("ring", y.ring(), x.ring());
+        due.is("humour", y.humour(), x.humour());
+        due.is("tardy", y.tardy(), x.tardy());
+        Tapes.cloister(x, "store spring 9;store summer 3;store autumn 2;store winter 1");
+        Tapes.cloister(y, "store spring 9;store summer 3;store autumn 2;store winter 1");
+        due.is("starves", y.starves(), x.starves());
+        due.is("hunger", y.ahead(0, 40, 2), x.ahead(0, 40, 2));
+        due.is("no draw was made", y.seed(1), 1);
     }
 
     private static void p26Far() {
@@ -812,6 +870,12 @@ public final class PromiseTests {
                 + "monk at 0 stall 2;monk at 0 stall 3").shown(), 4);
         due.is("two of one month", Tapes.told("monk at 0 stall 0 likes ab;monk at 0 stall 1 likes l;"
                 + "monk at 0 stall 2 likes ab;monk at 0 stall 3 likes l").shown(), 10);
+        due.is("the first likes nothing", Tapes.told("monk at 0 stall 0;monk at 0 stall 1 likes a").shown(), 1);
+        StringBuilder seven = new StringBuilder("monk at 0 stall 0 likes abcdef");
+        for (int m = 1; m < 7; m++) {
+            seven.append(";monk at 0 stall ").append(m).append(" likes abcdef");
+        }
+        due.is("seven of six", Tapes.told(seven.toString()).shown(), 127);
         due.is("three of two", Tapes.told("monk at 0 stall 0 likes ab;monk at 0 stall 1 likes ac;"
                 + "monk at 0 stall 2 likes ab;monk at 0 stall 3 likes ab").shown(), 13);
     }
@@ -840,6 +904,22 @@ public final class PromiseTests {
         // As near one way as the other: the least number.
         SeasonWalks w = Tapes.told("monk at 0 stall 6 likes eih;monk at 0 stall 8 likes g;monk at 0 stall 4 likes g");
         trade(w, 1, 0, 2);
+        // From 3 the month 1 is two off, 8 is five.
+        SeasonWalks v = Tapes.told("monk at 0 stall 3 likes bi;monk at 0 stall 8 likes d;monk at 0 stall 1 likes d");
+        trade(v, 2, 1, 0);
+        // None likes any month: each keeps his own.
+        trade(Tapes.told("monk at 0 stall 4;monk at 0 stall 5"), 0, 1);
+        SeasonWalks chain = new SeasonWalks();
+        Tapes.cloister(chain, "monk at 0 stall 0 likes a;monk at 0 stall 1 likes a;monk at 0 stall 2 likes b;"
+                + "monk at 0 stall 3 likes c;monk at 0 stall 4 likes d;monk at 0 stall 5 likes e;"
+                + "monk at 0 stall 6 likes f");
+        due.is("the last of seven times", chain.trade(6, false) * 10 + chain.trade(6, true), 61);
+        SeasonWalks ring = new SeasonWalks();
+        Tapes.cloister(ring, "monk at 0 stall 0 likes b;monk at 0 stall 1 likes c;monk at 0 stall 2 likes d;"
+                + "monk at 0 stall 3 likes e;monk at 0 stall 4 likes f;monk at 0 stall 5 likes g;"
+                + "monk at 0 stall 6 likes a");
+        rings(ring, 7, 7, 7, 7, 7, 7, 7);
+        trade(ring, 1, 2, 3, 4, 5, 6, 0);
         due.outOfBounds("trade 3", () -> x.trade(3, true));
         due.outOfBounds("trade -1", () -> x.trade(-1, false));
         due.is("stalls stay", x.monk(0, 2), 3);
@@ -875,6 +955,8 @@ public final class PromiseTests {
         seen(x, 135, 65535 - 2, 0, 0);
         seen(x, 0, 0, 0, 0, 0, 1);
         seen(x, 9, 0b1000000000001110 | 1 << 5 | 1 << 9 | 1 << 13 | 1 << 11 | 1 << 7 | 1, 3, 1);
+        SeasonWalks y = new SeasonWalks();
+        seen(y, 1, 1, 0, 1, 1, 1);
         int[] most = new int[40];
         Tapes.bytes(x, most);
         due.is("twenty rows", x.seen(false), 135);
@@ -920,6 +1002,8 @@ public final class PromiseTests {
         due.is("none left", askOf(x, 0, 1, 0, 0), NONE);
         // Of the strides 0 to 8 from the bell, 8 hours part the even from the odd ones: 5 and 4.
         due.is("nine left", askOf(x, 0, 1), 8);
+        // From the bell at 0, strides 0 and 8 by the hour 2: an odd hour parts them.
+        due.is("with the first of all", askOf(new SeasonWalks(), 0, 1, 2, 1), 1);
     }
 
     private static int askOf(SeasonWalks x, int... rows) {
@@ -1014,6 +1098,11 @@ public final class PromiseTests {
         // One of three stays alone: 0 first, as none is the least.
         SeasonWalks z = Tapes.told("monk at 0 stall 0 likes a;monk at 0 stall 1 likes a;monk at 0 stall 2 likes a");
         pairs(z, 1, NONE, 2, 1);
+        SeasonWalks w = Tapes.told("monk at 0 stall 0;monk at 0 stall 1 likes a;monk at 0 stall 2 likes a");
+        pairs(w, 1, NONE, 2, 1);
+        SeasonWalks v = Tapes.told("monk at 0 stall 0 likes ab;monk at 0 stall 1 likes abc;"
+                + "monk at 0 stall 2 likes cd;monk at 0 stall 3 likes d");
+        pairs(v, 3, 1, 0, 3, 2);
         due.outOfBounds("pairs 3", () -> x.pairs(3));
         due.outOfBounds("pairs -2", () -> x.pairs(-2));
     }
@@ -1077,6 +1166,9 @@ public final class PromiseTests {
         SeasonWalks x = Tapes.told("monk at 0 stall 0 pace 0;monk at 15 stall 1;monk at 15 stall 2;mood spring");
         x.hours(1);
         due.is("the least", x.elder(), 1);
+        SeasonWalks y = Tapes.told("monk at 15 stall 0;mood spring");
+        y.hours(1);
+        due.is("one alone", y.elder(), 0);
     }
 
     private static void p44Rests() {
@@ -1161,6 +1253,13 @@ public final class PromiseTests {
                 + "store spring 0");
         y.hours(2);
         due.is("the least", y.hungriest(), 1);
+        y.fill(0, 99);
+        y.cross(0);
+        y.hours(1);
+        due.is("of nobody any more", y.hungriest(), NONE);
+        SeasonWalks z = Tapes.told("monk at 0 stall 0 pace 0;monk at 4 stall 1 pace 0;store spring 0");
+        z.hours(1);
+        due.is("the first one", z.hungriest(), 0);
     }
 
     private static void p51Alike() {
@@ -1226,6 +1325,17 @@ public final class PromiseTests {
         }
         x.seed(99);
         due.is("seeds differ", least < greatest, true);
+        for (int n = 1; n <= 72; n += 3) {
+            int few = 999;
+            int many = 0;
+            for (int seed = 1; seed <= 6; seed++) {
+                x.seed(seed);
+                few = Math.min(few, x.trial(n, false));
+                many = Math.max(many, x.trial(n, false));
+            }
+            due.is("span of " + n, x.span(n, false) * 1000 + x.span(n, true), few * 1000 + many);
+        }
+        x.seed(99);
         due.is("least", x.span(60, false), least);
         due.is("greatest", x.span(60, true), greatest);
         due.is("none", x.span(0, true), 0);
@@ -1246,6 +1356,10 @@ public final class PromiseTests {
         due.is("then", x.led(0, true), 11);
         due.is("the other", x.led(1, false) * 10 + x.led(1, true), 23);
         due.is("in time", x.led(2, false), 0);
+        SeasonWalks y = Tapes.told("monk at 2 stall 0 pace 5;mood spring");
+        y.hours(4);
+        due.is("the latest", y.led(0, true), 6);
+        due.is("late, round, late", y.led(0, false), 3);
         due.outOfBounds("led 3", () -> x.led(3, true));
         due.outOfBounds("led -1", () -> x.led(-1, false));
     }
