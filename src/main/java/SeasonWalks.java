@@ -279,12 +279,12 @@ public final class SeasonWalks {
 
     /** From which flag the bell should ring. */
     public int ring() {
-        return foresight.bestBell(now, theLaw);
+        return foresight.bestChoice(now, theLaw, false);
     }
 
     /** The mood by which the fewest are late. */
     public int humour() {
-        return foresight.bestMood(now, theLaw);
+        return foresight.bestChoice(now, theLaw, true);
     }
 
     /** In how many hours somebody is first hungry, or NONE. */
@@ -1584,31 +1584,21 @@ public final class SeasonWalks {
             return best;
         }
 
-        private int bestBell(Cloister now, Law law) {
+        /** The bell's flag, or (moods) the mood, by which monks are late the least often. */
+        private int bestChoice(Cloister now, Law law, boolean moods) {
             int best = 0;
             int least = MUCH;
-            for (int flag = 0; flag < FLAGS; flag++) {
+            for (int choice = 0; choice < (moods ? MOODS : FLAGS); choice++) {
                 look(now);
-                then.bell = flag;
-                int late = passOffices(law, OFFICES_TOLD);
-                if (late < least) {
-                    least = late;
-                    best = flag;
+                if (moods) {
+                    then.mood = choice;
+                } else {
+                    then.bell = choice;
                 }
-            }
-            return best;
-        }
-
-        private int bestMood(Cloister now, Law law) {
-            int best = 0;
-            int least = MUCH;
-            for (int mood = 0; mood < MOODS; mood++) {
-                look(now);
-                then.mood = mood;
                 int late = passOffices(law, OFFICES_TOLD);
                 if (late < least) {
                     least = late;
-                    best = mood;
+                    best = choice;
                 }
             }
             return best;
