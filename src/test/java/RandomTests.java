@@ -10,6 +10,8 @@ import java.util.Random;
 public final class RandomTests {
     private static final int RUNS = 300;
     private static final int MOST_CALLS = 512;
+    // A text takes 23 calls, the counts at the end 15, and the fault is asked for in between.
+    private static final int LONGEST = 46;
 
     private final Due due;
     private final Random random;
@@ -47,7 +49,10 @@ public final class RandomTests {
     }
 
     private void run() throws ReflectiveOperationException {
-        while (calls < MOST_CALLS - 40 && due.isClean()) {
+        if (random.nextInt(3) == 0) {
+            fill();
+        }
+        while (calls < MOST_CALLS - LONGEST && due.isClean()) {
             int chance = random.nextInt(100);
             if (chance < 6) {
                 feed(random.nextInt(9) == 0 ? broken(cloisterText()) : cloisterText());
@@ -73,6 +78,15 @@ public final class RandomTests {
         for (int what = -1; what < 14; what++) {
             call("count", what);
         }
+    }
+
+    /** A full cloister of seven monks, some hours old. */
+    private void fill() throws ReflectiveOperationException {
+        while (plain.count(0) < 7 && plain.count(1) < 12) {
+            feed(monkLine());
+            call("cloister");
+        }
+        call("hours", 1 + random.nextInt(72));
     }
 
     private String pick(String... words) {
@@ -140,6 +154,7 @@ public final class RandomTests {
             System.out.println(told);
         }
         if (calls % 7 == 0) {
+            calls++;
             Object fault = plain.fault();
             due.is("fault", x.fault(), fault);
         }
